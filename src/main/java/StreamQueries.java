@@ -1640,7 +1640,7 @@ public final class StreamQueries {
             return text.fault != 0;
         }
 
-        void checkQuery(Query query) {
+        private void checkQuery(Query query) {
             for (int i = 0; i < query.selects.size() && !isFaulty(); i++) {
                 Select next = query.selects.get(i);
                 checkSelect(next);
@@ -2070,7 +2070,7 @@ public final class StreamQueries {
             this.strip = strip;
         }
 
-        int runQuery(Query query, int start) {
+        private int runQuery(Query query, int start) {
             int size = 0;
             int width = query.width();
             for (int i = 0; i < query.selects.size(); i++) {

@@ -276,10 +276,7 @@ public final class StreamQueries {
     }
 
     public int type(int column) {
-        if (column < 0 || column >= width() || standing == null) {
-            return 0;
-        }
-        return standing.columnType(column);
+        return standing == null ? 0 : standing.columnType(column);
     }
 
     public int three(int act, int a, int b) {
@@ -321,11 +318,11 @@ public final class StreamQueries {
     }
 
     private int width() {
-        return standing == null ? 0 : standing.top.width();
+        return standing == null ? 0 : standing.top.items.size;
     }
 
     private Strip answerStrip() {
-        return standing != null && standing.top.isOrdered() ? shown : sorted;
+        return standing != null && standing.top.orders != null ? shown : sorted;
     }
 
     private int answerCell(int i, int column) {
@@ -1032,18 +1029,19 @@ public final class StreamQueries {
     }
 
     private static final class Query {
-        final ArrayList<Select> selects = new ArrayList<Select>();
+        final ArrayList<Select> selects;
+        /** The first SELECT's, which have the QUERY's names and types. */
+        final Columns items;
+        /** Of order by, or null. */
         Columns orders;
         int orderPlace;
         int limit;
         boolean isUnkept;
 
-        boolean isOrdered() {
-            return orders != null;
-        }
-
-        int width() {
-            return selects.isEmpty() ? 0 : selects.get(0).items.size;
+        Query(Select first) {
+            selects = new ArrayList<Select>();
+            selects.add(first);
+            items = first.items;
         }
     }
 
@@ -1067,7 +1065,7 @@ public final class StreamQueries {
             // Each EXPR has a byte of its own.
             code = new Code(Math.min(EXPR_LIMIT, size));
             leaves = new Source[LEAF_LIMIT];
-            top = new Query();
+            top = new Query(new Select());
         }
 
         void read() {
@@ -1077,10 +1075,7 @@ public final class StreamQueries {
         }
 
         int columnType(int column) {
-            if (top.selects.isEmpty() || !top.selects.get(0).items.has(column)) {
-                return 0;
-            }
-            return top.selects.get(0).items.types[column];
+            return top.items.has(column) ? top.items.types[column] : 0;
         }
 
         int visibleRows(Streams streams) {
@@ -1142,8 +1137,7 @@ public final class StreamQueries {
         }
 
         private Query readQuery() {
-            Query query = new Query();
-            query.selects.add(readSelect());
+            Query query = new Query(readSelect());
             for (int n = 0; n < TAPE_SIZE && beginsSet(kind()); n++) {
                 int word = kind();
                 int wordPlace = here();
@@ -1664,14 +1658,14 @@ public final class StreamQueries {
             if (right.set != ALL) {
                 checkBound(query.isUnkept, right.setPlace);
             }
-            if (!query.selects.get(0).items.sameTypes(right.items)) {
+            if (!query.items.sameTypes(right.items)) {
                 text.refuse(FAULT_COLUMNS, right.setPlace);
             }
         }
 
         private void checkOrder(Query query, Columns orders) {
             checkBound(query.isUnkept, query.orderPlace);
-            names = query.selects.isEmpty() ? new Columns() : query.selects.get(0).items;
+            names = query.items;
             checkColumns(orders);
         }
 
@@ -1736,10 +1730,10 @@ public final class StreamQueries {
 
         private void checkInner(Source source, Query inner) {
             checkQuery(inner);
-            if (isFaulty() || inner.selects.isEmpty()) {
+            if (isFaulty()) {
                 return;
             }
-            Columns items = inner.selects.get(0).items;
+            Columns items = inner.items;
             if (!items.allNamedApart()) {
                 text.refuse(FAULT_NAME, source.closing);
             }
@@ -2072,7 +2066,7 @@ public final class StreamQueries {
 
         private int runQuery(Query query, int start) {
             int size = 0;
-            int width = query.width();
+            int width = query.items.size;
             for (int i = 0; i < query.selects.size(); i++) {
                 Select next = query.selects.get(i);
                 int behind = start + size * width;

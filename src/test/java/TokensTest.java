@@ -36,6 +36,8 @@ public final class TokensTest {
         p.faulty(1, "select @_a from s0 as p");
         p.faulty(1, "select a from s0 as p@;");
         p.faulty(1, "select a @\u00e4 from s0 as p");
+        p.faulty(1, "select @\u00a8a) from s0 as p");
+        p.faulty(1, "select @\u00ff1 from s0 as p");
         p.faulty(1, "select a @\u00ff from s0 as p");
         p.faulty(1, "select a @\u0080 from s0 as p");
         p.faulty(1, "select a@\0 from s0 as p");
@@ -89,6 +91,8 @@ public final class TokensTest {
         p.faulty(1, "select a from @sa as p");
         p.faulty(1, "select a from @1 as p");
         p.faulty(1, "select a from @select");
+        p.faulty(1, "select a from @as p");
+        p.faulty(1, "select a from @time as p");
         p.faulty(1, "select a from s0 @p");
         p.faulty(1, "select a from s0 as @keep 5");
         p.faulty(1, "select a from s0 as p keep @a");

@@ -145,6 +145,11 @@ public final class MeaningTest {
         p.answers("unbounded select q.b, q.time, q.a is null from s0 as p left join s1 as q on false",
             "null,null,1;null,null,1;null,null,1;");
         p.answers("unbounded select p.b from s0 as p left join s1 as q on null", "10;20;30;");
+        p.answers("unbounded select p.b, q.b, q.a, q.time from s0 as p left join (select b, a, time from s1 as r where a = 1)"
+            + " as q on p.a = q.a + 1", "10,null,null,null;20,100,1,4;20,101,1,5;30,null,null,null;");
+        p.answers("unbounded select p.b, q.b, p.time from s0 as p left join (select b from s1 as r where false) as q on true",
+            "10,null,1;20,null,2;30,null,3;");
+        p.answers("unbounded select p.b, q.b from s0 as p join (select b from s1 as r where false) as q on true", "");
         p.answers("unbounded select p.b from s0 as p join s1 as q on null", "");
         p.answers("unbounded select p.b, q.b from s0 as p join s1 as q on true where p.b = 10", "10,100;10,101;10,102;");
         p.answers("unbounded select p.b from s0 as p left join s1 as q on p.a = q.a where q.b is null", "20;30;");

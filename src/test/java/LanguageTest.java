@@ -67,10 +67,6 @@ public final class LanguageTest {
         while (m.find()) {
             Probe.due(m.group() + " is of the library", METHODS_OF_LIBRARY.contains(m.group()), true);
         }
-        m = Pattern.compile("(\\w+)\\.(get|add|set|remove)\\(").matcher(code);
-        while (m.find()) {
-            Probe.due(m.group() + " of a list, or of the program's own", m.group(1).length() > 1, true);
-        }
     }
 
     /** A method's head stands at 4 or 8 blanks, and so does its closing brace. */

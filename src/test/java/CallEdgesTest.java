@@ -436,20 +436,24 @@ public final class CallEdgesTest {
         Probe.due("the least of a new object", new StreamQueries().watermark(Long.MIN_VALUE), 0);
     }
 
-    /** A query of s0 whose last act made two changes. */
+    private static final String CHANGED = "-1:4,null,1;-1:5,null,1;+1:6,null,1;+1:7,null,1;";
+
+    /** A query of two rows, each of which the last act made another one. */
     private static Probe changed() {
-        Probe p = new Probe().streams(1);
-        p.row(0, 5, 7);
-        p.well("unbounded select count(*), null, true from s0 as p", 3);
-        p.row(0, 5, 8);
-        Probe.due("changes", p.changes(), "-1:1,null,1;+1:2,null,1;");
+        Probe p = new Probe().streams(1, 1);
+        p.row(0, 5, 3);
+        p.row(0, 5, 4);
+        p.row(1, 5, 1);
+        p.well("unbounded select a + n, null, true from s0 as p join (select sum(a) as n from s1 as q) as r on true", 3);
+        p.row(1, 5, 2);
+        Probe.due("changes", p.changes(), CHANGED);
         return p;
     }
 
     /** Promise 12: (0 if it was refused, behind query(), one with a FAULT, too). */
     private static void changesOfTheLatestAct() {
         Probe p = changed();
-        p.x.row(1, 0);
+        p.x.row(2, 0);
         Probe.due("behind a refused row()", p.x.changes(), 0);
         p = changed();
         p.x.row(0, 0);
@@ -464,7 +468,7 @@ public final class CallEdgesTest {
         p.x.watermark(5);
         Probe.due("behind a watermark() that changes nothing", p.x.changes(), 0);
         p = changed();
-        p.well("unbounded select count(*), null, true from s0 as p", 3);
+        p.well("select a from s0 as p", 1);
         Probe.due("behind query()", p.x.changes(), 0);
         p = changed();
         p.bad("select", 1, 6);
@@ -478,16 +482,19 @@ public final class CallEdgesTest {
         p.x.stream(9);
         p.x.three(0, 0, 0);
         p.x.told(1);
-        Probe.due("behind what is no such act", p.changes(), "-1:1,null,1;+1:2,null,1;");
+        Probe.due("behind what is no such act", p.changes(), CHANGED);
     }
 
-    /** Promise 13: 0: none such. */
+    private static final int[] NO_ROWS = {-1, 4, 5, -4, 100, LEAST, GREATEST};
+    private static final int[] NO_COLUMNS = {-1, 3, 4, -3, 8, LEAST, GREATEST};
+
+    /** Promise 13: Of a change: how often more (below 0: less). 0: none such. */
     private static void changeOfNone() {
         Probe p = changed();
-        Probe.due("change(0)", p.x.change(0), -1);
-        Probe.due("change(1)", p.x.change(1), 1);
-        int[] none = {-1, 2, 3, LEAST, GREATEST};
-        for (int i : none) {
+        for (int i = 0; i < 4; i++) {
+            Probe.due("change(" + i + ")", p.x.change(i), i < 2 ? -1 : 1);
+        }
+        for (int i : NO_ROWS) {
             Probe.due("change(" + i + ")", p.x.change(i), 0);
         }
         p.x.back(0, 7);
@@ -497,18 +504,19 @@ public final class CallEdgesTest {
     /** Promise 14: VALUE of a column of a change (truths 0, 1; NULL 0). 0: none such. */
     private static void changedOfNone() {
         Probe p = changed();
-        Probe.due("changed(0, 0)", p.x.changed(0, 0), 1);
-        Probe.due("changed(1, 0)", p.x.changed(1, 0), 2);
-        Probe.due("changed(1, 1) of NULL", p.x.changed(1, 1), 0);
-        Probe.due("changed(1, 2) of a truth", p.x.changed(1, 2), 1);
-        int[] none = {-1, 3, 8, LEAST, GREATEST};
-        for (int i : none) {
-            Probe.due("changed(" + i + ", 0)", p.x.changed(i, 0), 0);
-            Probe.due("changed(0, " + i + ")", p.x.changed(0, i), 0);
-            Probe.due("changed(1, " + i + ")", p.x.changed(1, i), 0);
-            Probe.due("changed(" + i + ", " + i + ")", p.x.changed(i, i), 0);
+        for (int i = 0; i < 4; i++) {
+            Probe.due("changed(" + i + ", 0)", p.x.changed(i, 0), 4 + i);
+            Probe.due("changed(" + i + ", 1) of NULL", p.x.changed(i, 1), 0);
+            Probe.due("changed(" + i + ", 2) of a truth", p.x.changed(i, 2), 1);
+            for (int c : NO_COLUMNS) {
+                Probe.due("changed(" + i + ", " + c + ")", p.x.changed(i, c), 0);
+            }
         }
-        Probe.due("changed(2, 0), the first that is none", p.x.changed(2, 0), 0);
+        for (int i : NO_ROWS) {
+            for (int c = -4; c <= 4; c++) {
+                Probe.due("changed(" + i + ", " + c + ")", p.x.changed(i, c), 0);
+            }
+        }
         p.x.back(0, 7);
         Probe.due("changed(0, 0) of a refused act", p.x.changed(0, 0), 0);
     }
@@ -516,18 +524,19 @@ public final class CallEdgesTest {
     /** Promise 15: Whether that is NULL. */
     private static void changedNullOfNone() {
         Probe p = changed();
-        for (int i = 0; i < 2; i++) {
-            Probe.due("changedNull(" + i + ", 0)", p.x.changedNull(i, 0), false);
-            Probe.due("changedNull(" + i + ", 1)", p.x.changedNull(i, 1), true);
-            Probe.due("changedNull(" + i + ", 2)", p.x.changedNull(i, 2), false);
+        for (int i = 0; i < 4; i++) {
+            for (int c = 0; c < 3; c++) {
+                Probe.due("changedNull(" + i + ", " + c + ")", p.x.changedNull(i, c), c == 1);
+            }
+            for (int c : NO_COLUMNS) {
+                Probe.due("changedNull(" + i + ", " + c + ")", p.x.changedNull(i, c), false);
+            }
         }
-        int[] none = {-1, 3, 8, LEAST, GREATEST};
-        for (int i : none) {
-            Probe.due("changedNull(" + i + ", 1)", p.x.changedNull(i, 1), false);
-            Probe.due("changedNull(0, " + i + ")", p.x.changedNull(0, i), false);
-            Probe.due("changedNull(1, " + i + ")", p.x.changedNull(1, i), false);
+        for (int i : NO_ROWS) {
+            for (int c = -4; c <= 4; c++) {
+                Probe.due("changedNull(" + i + ", " + c + ")", p.x.changedNull(i, c), false);
+            }
         }
-        Probe.due("changedNull(2, 1), the first that is none", p.x.changedNull(2, 1), false);
         p.x.back(0, 7);
         Probe.due("changedNull(0, 1) of a refused act", p.x.changedNull(0, 1), false);
     }
@@ -559,36 +568,39 @@ public final class CallEdgesTest {
     /** Promise 17: VALUE of a column of its row i. 0: none such. */
     private static void atOfNone() {
         Probe p = answered();
-        Probe.due("at(0, 0)", p.x.at(0, 0), 6);
-        Probe.due("at(1, 0)", p.x.at(1, 0), 7);
-        Probe.due("at(0, 1) of NULL", p.x.at(0, 1), 0);
-        Probe.due("at(0, 2) of true", p.x.at(0, 2), 1);
-        Probe.due("at(1, 2) of false", p.x.at(1, 2), 0);
-        int[] none = {-1, 3, 8, LEAST, GREATEST};
-        for (int i : none) {
-            Probe.due("at(" + i + ", 0)", p.x.at(i, 0), 0);
-            Probe.due("at(0, " + i + ")", p.x.at(0, i), 0);
-            Probe.due("at(1, " + i + ")", p.x.at(1, i), 0);
-            Probe.due("at(" + i + ", " + i + ")", p.x.at(i, i), 0);
+        for (int i = 0; i < 2; i++) {
+            Probe.due("at(" + i + ", 0)", p.x.at(i, 0), 6 + i);
+            Probe.due("at(" + i + ", 1) of NULL", p.x.at(i, 1), 0);
+            Probe.due("at(" + i + ", 2) of a truth", p.x.at(i, 2), 1 - i);
+            for (int c : NO_COLUMNS) {
+                Probe.due("at(" + i + ", " + c + ")", p.x.at(i, c), 0);
+            }
         }
-        Probe.due("at(2, 0), the first that is none", p.x.at(2, 0), 0);
+        for (int c = -4; c <= 4; c++) {
+            Probe.due("at(2, " + c + "), the first that is none", p.x.at(2, c), 0);
+            for (int i : NO_ROWS) {
+                Probe.due("at(" + i + ", " + c + ")", p.x.at(i, c), 0);
+            }
+        }
     }
 
     /** Promise 18: Whether that is NULL. */
     private static void isNullOfNone() {
         Probe p = answered();
         for (int i = 0; i < 2; i++) {
-            Probe.due("isNull(" + i + ", 0)", p.x.isNull(i, 0), false);
-            Probe.due("isNull(" + i + ", 1)", p.x.isNull(i, 1), true);
-            Probe.due("isNull(" + i + ", 2)", p.x.isNull(i, 2), false);
+            for (int c = 0; c < 3; c++) {
+                Probe.due("isNull(" + i + ", " + c + ")", p.x.isNull(i, c), c == 1);
+            }
+            for (int c : NO_COLUMNS) {
+                Probe.due("isNull(" + i + ", " + c + ")", p.x.isNull(i, c), false);
+            }
         }
-        int[] none = {-1, 3, 8, LEAST, GREATEST};
-        for (int i : none) {
-            Probe.due("isNull(" + i + ", 1)", p.x.isNull(i, 1), false);
-            Probe.due("isNull(0, " + i + ")", p.x.isNull(0, i), false);
-            Probe.due("isNull(1, " + i + ")", p.x.isNull(1, i), false);
+        for (int c = -4; c <= 4; c++) {
+            Probe.due("isNull(2, " + c + "), the first that is none", p.x.isNull(2, c), false);
+            for (int i : NO_ROWS) {
+                Probe.due("isNull(" + i + ", " + c + ")", p.x.isNull(i, c), false);
+            }
         }
-        Probe.due("isNull(2, 1), the first that is none", p.x.isNull(2, 1), false);
     }
 
     /** Promise 19: Of a column of the query: 1 a number, 2 a truth. 0: none such. */

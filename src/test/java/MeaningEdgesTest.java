@@ -58,6 +58,7 @@ public final class MeaningEdgesTest {
         changesLessThenMore();
         changesByColumnsWithOrder();
         changesHowOften();
+        changesManyAtOnce();
         Probe.end("MeaningEdgesTest");
     }
 
@@ -387,6 +388,9 @@ public final class MeaningEdgesTest {
             p.answers("select a from s0 as p " + c + " a = 1", "1;");
             p.answers("select a from s0 as p " + c + " not a = 1", "2;");
             p.answers("select a from s0 as p " + c + " a = 1 or a is null", "null;1;");
+            p.answers("select a + null from s0 as p " + c + " true", "null;null;null;");
+            Probe.due("again", p.row(0, 0, 7) + p.answer(), "3null;null;null;null;");
+            p.x.back(0, 3);
             p.answers("unbounded select count(*) from s0 as p where true " + (c.equals("where") ? "" : "having count(*) = null"),
                 c.equals("where") ? "3;" : "");
         }
@@ -531,6 +535,11 @@ public final class MeaningEdgesTest {
         p.answers("unbounded select count(*) from (select a from s1 as p) as q", "0;");
         p.answers("unbounded select n from (select count(*) as n from s1 as p) as q", "0;");
         p.answers("unbounded select 7 from s1 as p having true", "");
+        // An aggregate of having makes its own SELECT a GROUPED one, and no other.
+        p.answers("unbounded select 7 from (select a from s0 as p) as q having count(*) = 2", "7;");
+        p.answers("unbounded select b from (select b from s0 as p) as q where b > 0", "10;20;");
+        p.answers("unbounded select 7 from (select a from s1 as p union all select 5 from s0 as q having count(*) = 2) as r"
+            + " having count(*) = 1", "7;");
     }
 
     /** (NULL like NULL). */
@@ -545,6 +554,9 @@ public final class MeaningEdgesTest {
         p.answers("unbounded select k, count(*) from s0 as p group by a = b as k", "null,5;1,1;");
         p.answers("unbounded select k, count(*) from s0 as p group by null as k", "null,6;");
         p.answers("unbounded select k, count(*) from s0 as p group by a is null as k", "0,2;1,4;");
+        // A truth of group by is one.
+        p.answers("unbounded select not k from s0 as p group by a is null as k having k", "0;");
+        Probe.due("type of a truth of group by", p.x.type(0), 2);
     }
 
     /** count(*): how many; others .. (of none NULL). */
@@ -580,6 +592,11 @@ public final class MeaningEdgesTest {
         p.row(0, 0, LEAST, GREATEST);
         p.answers("unbounded select min(a), max(a), min(b), max(b) from s0 as p", LEAST + ",7,1," + GREATEST + ";");
         p.answers("unbounded select min(-b), max(-b) from s0 as p", "-" + GREATEST + ",-1;");
+        // In whatever order they stand.
+        p.answers("unbounded select max(b), count(a), min(a), count(*), sum(b) from s0 as p where a is not null",
+            GREATEST + ",3," + LEAST + ",3," + (GREATEST + 2) + ";");
+        p.answers("unbounded select k, sum(b), count(*), max(b), count(*), min(b), count(*) from s0 as p group by a is null as k",
+            "0," + (GREATEST + 2) + ",3," + GREATEST + ",3,2,3;1,1,2,1,2,1,2;");
     }
 
     /** sum goes round in 64 bits. */
@@ -601,8 +618,8 @@ public final class MeaningEdgesTest {
         p.well("unbounded select distinct a from s0 as p", 1);
         Probe.due("of none", p.answer(), "");
         for (int i = 0; i < 8; i++) {
-            p.row(0, 0, i < 4 ? null : 3);
-            Probe.due("rows", p.answer(), i < 4 ? "null;" : "null;3;");
+            p.row(0, 0, i % 2 == 0 ? null : 3);
+            Probe.due("rows", p.answer(), i == 0 ? "null;" : "null;3;");
         }
         p.answers("unbounded select distinct 5 from s0 as p", "5;");
         p.answers("unbounded select distinct a, a is null from s0 as p", "null,1;3,0;");
@@ -811,5 +828,32 @@ public final class MeaningEdgesTest {
         p.x.back(0, 1);
         Probe.due("eight less, to none", p.changes(), "-8:5;");
         Probe.due("answer", p.answer(), "");
+    }
+
+    /** As many as can be: all of 512 rows go at once, and other 64 come. */
+    private static void changesManyAtOnce() {
+        Probe p = new Probe().streams(1, 1, 1);
+        for (int i = 0; i < 8; i++) {
+            p.row(0, 0, i);
+            p.row(1, 0, i);
+            p.row(2, 0, i);
+        }
+        p.well("unbounded select p.a, q.a, r.a from s0 as p join s1 as q on true left join s2 as r keep 0 on true", 3);
+        p.x.watermark(0);
+        Probe.due("rows()", p.x.rows(), 512);
+        Probe.due("watermark(1)", p.x.watermark(1), 576);
+        Probe.due("changes()", p.x.changes(), 576);
+        for (int i = 0; i < 512; i++) {
+            Probe.due("change(" + i + ")", p.x.change(i), -1);
+            Probe.due("it", p.x.changed(i, 0) * 64 + p.x.changed(i, 1) * 8 + p.x.changed(i, 2), i);
+        }
+        for (int i = 512; i < 576; i++) {
+            Probe.due("change(" + i + ")", p.x.change(i), 1);
+            Probe.due("it", p.x.changed(i, 0) * 8 + p.x.changed(i, 1), i - 512);
+            Probe.due("its last column", p.x.changedNull(i, 2), true);
+        }
+        Probe.due("change(576)", p.x.change(576), 0);
+        Probe.due("changedNull(576, 2)", p.x.changedNull(576, 2), false);
+        Probe.due("rows()", p.x.rows(), 64);
     }
 }

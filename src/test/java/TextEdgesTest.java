@@ -11,6 +11,7 @@ public final class TextEdgesTest {
     public static void main(String[] args) {
         bytesBetweenTokens();
         bytesRightBehindTokens();
+        bytesAsSigns();
         bytesBehindTheText();
         tokensAsLongAsCanBe();
         wordsBegin();
@@ -83,6 +84,38 @@ public final class TextEdgesTest {
                 p.bad(text, 1, 8);
             }
         }
+    }
+
+    /** signs ( ) , . + - * / % = <> <= >= < >. Each of one byte is that byte, and no other one. */
+    private static void bytesAsSigns() {
+        for (int b = 0; b < 256; b++) {
+            checkSign(b, "(", "select ", " a ) from s0 as p");
+            checkSign(b, ")", "select ( a ", " from s0 as p");
+            checkSign(b, ".", "select p ", " a from s0 as p");
+            checkSign(b, ",", "select span ( a ", " 2 ) from s0 as p");
+            checkSign(b, "*", "unbounded select count ( ", " ) from s0 as p");
+            checkSign(b, "+-*/%,", "select 1 ", " ( 2 ) < 3 from s0 as p");
+            checkSign(b, "=<>", "select 1 + 2 ", " 3 and true from s0 as p");
+            checkSign(b, "=> \t\r\n-", "select 1 <", " 2 from s0 as p");
+            checkSign(b, "= \t\r\n-", "select 1 >", " 2 from s0 as p");
+        }
+    }
+
+    /** Well with one of the bytes between, else a FAULT at it, or, where it could be a part of an EXPR, some other one. */
+    private static void checkSign(int b, String signs, String before, String behind) {
+        Probe p = probe();
+        String text = before + (char) b + behind;
+        boolean isWell = p.ask(text) > 0;
+        Probe.due("is well: " + text, isWell, signs.indexOf(b) >= 0 || isPart(b, before));
+        boolean isAnyToken = b < 128 && (isBlank(b) || isLetter(b) || isDigit(b) || "(),.+-*/%=<>".indexOf(b) >= 0);
+        if (!isAnyToken) {
+            p.bad(text, 1, before.length());
+        }
+    }
+
+    /** In count ( ) a NUMBER or a column may stand, too. */
+    private static boolean isPart(int b, String before) {
+        return before.endsWith("count ( ") && (isDigit(b) || b >= 'a' && b <= 'd');
     }
 
     /** Behind the last token, where a letter or digit makes its NAME longer. */

@@ -1,10 +1,13 @@
 import java.nio.charset.StandardCharsets;
+import java.util.ArrayList;
+import java.util.List;
+import java.util.function.ToLongFunction;
 
 /** A StreamQueries object with calls in the form that tests want, and a count of what went wrong. */
 final class Probe {
     private static int wrong = 0;
     private static int checked = 0;
-    StreamQueries x = new StreamQueries();
+    final Calls x = new Calls();
 
     /** Ends the test: exit code 1 if anything went wrong. */
     static void end(String test) {
@@ -42,19 +45,25 @@ final class Probe {
         return this;
     }
 
+    /** The twenty bytes of a text from one on, as feed() wants them; 0 behind its end. */
+    static int[] five(String text, int from) {
+        byte[] bytes = text.getBytes(StandardCharsets.ISO_8859_1);
+        int[] five = new int[5];
+        for (int i = 0; i < 20; i++) {
+            int b = from + i < bytes.length ? bytes[from + i] & 255 : 0;
+            five[i / 4] = five[i / 4] << 8 | b;
+        }
+        return five;
+    }
+
     /** Puts a text on the tape behind what is there. */
     void tape(String text) {
-        byte[] bytes = text.getBytes(StandardCharsets.ISO_8859_1);
         int size = 0;
-        for (int i = 0; i < bytes.length; i += 20) {
-            int[] five = new int[5];
-            for (int j = 0; j < 20; j++) {
-                int b = i + j < bytes.length ? bytes[i + j] & 255 : 0;
-                five[j / 4] = five[j / 4] << 8 | b;
-            }
+        for (int i = 0; i < text.length(); i += 20) {
+            int[] five = five(text, i);
             size = x.feed(five[0], five[1], five[2], five[3], five[4]);
         }
-        int spare = (20 - bytes.length % 20) % 20;
+        int spare = (20 - text.length() % 20) % 20;
         if (spare > 0) {
             x.cut(size - spare);
         }
@@ -130,5 +139,150 @@ final class Probe {
         } else {
             due("answer of " + text, answer(), want);
         }
+    }
+}
+
+/**
+ * The calls of StreamQueries, on objects none of which gets more than the 512 calls that are promised: behind these a new
+ * one is brought to where the old one was, by the calls that matter still.
+ */
+final class Calls {
+    private static final int MOST = 512;
+
+    private enum Kind { WELL, FAULTY, OTHER }
+
+    /** A query is one act with the calls that made its tape: what is on the tape matters to nothing else. */
+    private record Act(Kind kind, List<ToLongFunction<StreamQueries>> calls) { }
+
+    private StreamQueries x = new StreamQueries();
+    private int count;
+    private final List<Act> acts = new ArrayList<>();
+    private List<ToLongFunction<StreamQueries>> tape = new ArrayList<>();
+
+    private long call(ToLongFunction<StreamQueries> call) {
+        if (count >= MOST) {
+            renew();
+        }
+        count++;
+        return call.applyAsLong(x);
+    }
+
+    private void renew() {
+        x = new StreamQueries();
+        count = 0;
+        for (Act act : acts) {
+            again(act.calls());
+        }
+        again(tape);
+        if (count >= MOST) {
+            throw new IllegalStateException("a test makes a run of more than 512 calls");
+        }
+    }
+
+    private void again(List<ToLongFunction<StreamQueries>> calls) {
+        for (ToLongFunction<StreamQueries> call : calls) {
+            call.applyAsLong(x);
+        }
+        count += calls.size();
+    }
+
+    private int onTape(ToLongFunction<StreamQueries> call) {
+        int answer = (int) call(call);
+        if (answer != StreamQueries.NONE) {
+            tape.add(call);
+        }
+        return answer;
+    }
+
+    private long onStreams(ToLongFunction<StreamQueries> call) {
+        long answer = call(call);
+        acts.add(new Act(Kind.OTHER, List.of(call)));
+        return answer;
+    }
+
+    int feed(int a, int b, int c, int d, int e) {
+        return onTape(y -> y.feed(a, b, c, d, e));
+    }
+
+    int cut(int n) {
+        return onTape(y -> y.cut(n));
+    }
+
+    /** A query that is well makes those before it matter no more, and one with a fault those with faults. */
+    int query() {
+        int answer = (int) call(StreamQueries::query);
+        tape.add(StreamQueries::query);
+        acts.removeIf(act -> act.kind() == Kind.FAULTY || act.kind() == Kind.WELL && answer >= 0);
+        acts.add(new Act(answer >= 0 ? Kind.WELL : Kind.FAULTY, tape));
+        tape = new ArrayList<>();
+        return answer;
+    }
+
+    int stream(int columns) {
+        return (int) onStreams(y -> y.stream(columns));
+    }
+
+    int value(long v) {
+        return (int) onStreams(y -> y.value(v));
+    }
+
+    int nothing() {
+        return (int) onStreams(StreamQueries::nothing);
+    }
+
+    int row(int stream, long time) {
+        return (int) onStreams(y -> y.row(stream, time));
+    }
+
+    boolean back(int stream, int place) {
+        return onStreams(y -> y.back(stream, place) ? 1 : 0) != 0;
+    }
+
+    int watermark(long time) {
+        return (int) onStreams(y -> y.watermark(time));
+    }
+
+    int fault() {
+        return (int) call(StreamQueries::fault);
+    }
+
+    int changes() {
+        return (int) call(StreamQueries::changes);
+    }
+
+    int change(int i) {
+        return (int) call(y -> y.change(i));
+    }
+
+    long changed(int i, int column) {
+        return call(y -> y.changed(i, column));
+    }
+
+    boolean changedNull(int i, int column) {
+        return call(y -> y.changedNull(i, column) ? 1 : 0) != 0;
+    }
+
+    int rows() {
+        return (int) call(StreamQueries::rows);
+    }
+
+    long at(int i, int column) {
+        return call(y -> y.at(i, column));
+    }
+
+    boolean isNull(int i, int column) {
+        return call(y -> y.isNull(i, column) ? 1 : 0) != 0;
+    }
+
+    int type(int column) {
+        return (int) call(y -> y.type(column));
+    }
+
+    int three(int act, int a, int b) {
+        return (int) call(y -> y.three(act, a, b));
+    }
+
+    int told(int what) {
+        return (int) call(y -> y.told(what));
     }
 }

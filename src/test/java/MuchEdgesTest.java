@@ -26,6 +26,7 @@ public final class MuchEdgesTest {
         thirteenthWithin();
         thirteenthWithinQueries();
         thirteenthWithinIsNotBesides();
+        farBeyondTheThirteenth();
         exprsOfEachKind();
         exprsOfEachClause();
         exprsAheadOfWhatStandsBehind();
@@ -280,6 +281,37 @@ public final class MuchEdgesTest {
         p.faulty(7, "select a in (" + twelve[0] + "@( 1");
     }
 
+    /** As many within one another as the tape can have are told at the 13th, too, and take no deeper calls than these. */
+    private static void farBeyondTheThirteenth() {
+        String[] ones = {"(", "-", "not ", "case when ", "case when true then ", "case when true then 1 else ", "span(", "span(1,"};
+        for (String one : ones) {
+            StringBuilder text = new StringBuilder("select ");
+            while (text.length() + one.length() <= 2000) {
+                text.append(one);
+            }
+            text.insert("select ".length() + 12 * one.length(), "@");
+            withLittleRoom(text.toString());
+        }
+        String query = "select a from (";
+        withLittleRoom(many(12, query, "") + query.replace("(", "@(") + many(120, query, ""));
+    }
+
+    /** Some hundred calls that stand open have room on this stack, thousands have not. */
+    private static void withLittleRoom(String text) {
+        boolean[] isDone = {false};
+        Thread thread = new Thread(null, () -> {
+            probe().faulty(7, text);
+            isDone[0] = true;
+        }, "little room", 256 * 1024);
+        thread.start();
+        try {
+            thread.join();
+        } catch (InterruptedException e) {
+            Thread.currentThread().interrupt();
+        }
+        Probe.due("it ends: " + text.substring(0, 40), isDone[0], true);
+    }
+
     /** A SELECT's start with so many EXPRS: one, then sums of two more each, then one more if the number is even. */
     private static String exprs(int count) {
         String sum = many((count + 1) / 2, "1", " + ");
@@ -360,6 +392,12 @@ public final class MuchEdgesTest {
             p.faulty(1, exprs(118) + ", span(1, 2 @" + b.replace(")", "?"));
             p.faulty(1, exprs(117) + ", case when true then 1 else 2 @" + b);
             p.faulty(1, exprs(119) + ", sum(1 @" + b.replace(")", "?"));
+        }
+        // An aggregate that may not stand there is told ahead of all that is not complete yet.
+        for (String a : AGGREGATES) {
+            p.faulty(1, exprs(120) + " from s0 as p where - @" + a + "(1)");
+            p.faulty(1, exprs(119) + " from s0 as p where 1 + @" + a + "(1)");
+            p.faulty(1, exprs(119) + ", sum(- @" + a + "(1))");
         }
         // The one that binds closer is complete first, and of like ones the left one.
         p.faulty(7, exprs(114) + ", 1 + 2 * 3 @= 4");

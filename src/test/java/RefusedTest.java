@@ -75,12 +75,25 @@ public final class RefusedTest {
         p.x.watermark(6);
     }
 
+    /** Neighbours with eight rows each, and a draft that has as many values as they have columns. */
+    private static void neighbours(Probe p) {
+        p.streams(2, 2, 2);
+        for (int i = 0; i < 24; i++) {
+            p.row(i / 8, i, i, -i);
+        }
+        p.ask("select a, b from s1 as p keep 2");
+        p.x.watermark(12);
+        p.x.value(98);
+        p.x.value(99);
+    }
+
     private static Map<String, Act> states() {
         Map<String, Act> all = new LinkedHashMap<>();
         all.put("a new object", NOTHING);
         all.put("begun", RefusedTest::begun);
         all.put("asked", RefusedTest::asked);
         all.put("full", RefusedTest::full);
+        all.put("neighbours", RefusedTest::neighbours);
         return all;
     }
 
@@ -233,6 +246,10 @@ public final class RefusedTest {
         refused("a row with a value less", "asked", p -> answers("row", p.x.row(0, 12), -1), but);
         refused("a row with a value more", "asked", p -> answers("row", p.x.row(1, 12), -1), but);
         refused("a ninth row", "full", p -> answers("row", p.x.row(0, 12), -1), but);
+        for (int s = 0; s < 3; s++) {
+            int stream = s;
+            refused("a ninth row of stream " + s, "neighbours", p -> answers("row", p.x.row(stream, 12), -1), but);
+        }
         refused("a row with values more, and a ninth", "full", p -> answers("row", p.x.row(5, 12), -1), but);
     }
 

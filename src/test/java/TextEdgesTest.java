@@ -411,6 +411,9 @@ public final class TextEdgesTest {
             p.faulty(1, "select a from @s" + c + " as p");
             p.faulty(1, "select a from @" + c + " as p");
         }
+        for (int n = 0; n <= 1000; n++) {
+            p.faulty(1, "select a from @" + n + " as p");
+        }
     }
 
     /** no such stream (at sn): the streams that are there when the query comes. */

@@ -706,7 +706,7 @@ public final class StreamQueries {
             size++;
             kinds[node] = kind;
             places[node] = place;
-            firsts[node] = Math.max(0, Math.min(first, node));
+            firsts[node] = first >= 0 && first <= node ? first : node;
             parts[node] = partCount;
             owners[node] = NO_NAME;
             skips[node] = NONE;
@@ -843,7 +843,8 @@ public final class StreamQueries {
                 case PERCENT:
                     return y == 0 ? 0 : x % y;
                 case SPAN:
-                    return y == 0 ? 0 : x - Math.floorMod(x, y);
+                    long above = y == 0 ? 0 : x % y;
+                    return above < 0 ? x - above - y : x - above;
                 case EQUAL:
                     return x == y ? 1 : 0;
                 case UNLIKE:
@@ -1143,10 +1144,10 @@ public final class StreamQueries {
                 int wordPlace = here();
                 next++;
                 boolean isAll = word == UNION && accept(ALL);
-                Select next = readSelect();
-                next.set = isAll ? ALL : word;
-                next.setPlace = wordPlace;
-                query.selects.add(next);
+                Select right = readSelect();
+                right.set = isAll ? ALL : word;
+                right.setPlace = wordPlace;
+                query.selects.add(right);
             }
             if (kind() == ORDER) {
                 readOrder(query);
@@ -1943,6 +1944,11 @@ public final class StreamQueries {
 
         void put(int cell, long v, int blank) {
             reserve(cell + 1);
+            set(cell, v, blank);
+        }
+
+        /** For a cell that has its room. */
+        void set(int cell, long v, int blank) {
             if (holds(cell)) {
                 values[cell] = blank != 0 ? 0 : v;
                 blanks[cell] = (byte) blank;
@@ -2239,6 +2245,7 @@ public final class StreamQueries {
             }
             strip.sort(scratch, size, wide, 0);
             int out = scratch + size * wide;
+            strip.reserve(out + Math.max(size, 1) * wide);
             int groups = 0;
             int first = 0;
             for (int i = 1; i <= size; i++) {
@@ -2294,10 +2301,10 @@ public final class StreamQueries {
                 }
             }
             if (kind == COUNT || kind == COUNT_ALL) {
-                strip.put(to, count, 0);
+                strip.set(to, count, 0);
             } else {
                 long folded = kind == SUM ? sum : kind == MIN ? least : most;
-                strip.put(to, folded, count == 0 ? 1 : 0);
+                strip.set(to, folded, count == 0 ? 1 : 0);
             }
         }
     }

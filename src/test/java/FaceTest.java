@@ -74,7 +74,9 @@ public final class FaceTest {
         }
         Class<?>[] inside = StreamQueries.class.getDeclaredClasses();
         Probe.due("no more than twelve classes", inside.length + 1 <= 12, true);
+        fewFields(StreamQueries.class);
         for (Class<?> c : inside) {
+            fewFields(c);
             Probe.due(c.getName() + " is static", Modifier.isStatic(c.getModifiers()), true);
             Probe.due(c.getName() + " is public", Modifier.isPublic(c.getModifiers()), false);
             for (Method m : c.getDeclaredMethods()) {
@@ -82,5 +84,13 @@ public final class FaceTest {
                 Probe.due(c.getName() + "." + m.getName() + " has seven parameters at most", m.getParameterCount() <= 7, true);
             }
         }
+    }
+
+    private static void fewFields(Class<?> c) {
+        int count = 0;
+        for (Field f : c.getDeclaredFields()) {
+            count += Modifier.isStatic(f.getModifiers()) ? 0 : 1;
+        }
+        Probe.due(c.getName() + " has no more than twenty fields", count <= 20, true);
     }
 }

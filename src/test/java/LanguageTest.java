@@ -10,7 +10,7 @@ import java.util.regex.Pattern;
 /** The rules of LANGUAGE.md that can be seen in the program's text. */
 public final class LanguageTest {
     private static final Set<String> METHODS_OF_LIBRARY = Set.of(
-        "Math.max", "Math.min", "Math.floorMod", "Long.MIN_VALUE", "Long.MAX_VALUE", "Long.compare",
+        "Math.max", "Math.min", "Long.MIN_VALUE", "Long.MAX_VALUE", "Long.compare",
         "System.arraycopy", "Arrays.copyOf");
 
     public static void main(String[] args) throws IOException {
